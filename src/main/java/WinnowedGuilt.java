@@ -528,8 +528,8 @@ public final class WinnowedGuilt {
             if (hours <= 0) {
                 return 0;
             }
-            int hour = Math.floorMod(Scene.clockOf(scene), hours);
-            return hour < winds.length ? winds[hour] : 0;
+            int hour = Scene.clockOf(scene) % hours;
+            return hour >= 0 && hour < winds.length ? winds[hour] : 0;
         }
 
         int liftAt(long scene, int place) {

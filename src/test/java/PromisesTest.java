@@ -427,6 +427,7 @@ public final class PromisesTest {
         Due.is("too many of 2", x.judge(2, 10000), -2);
         Due.is("too many of 3", x.judge(3, 1000000), -2);
         Due.is("below 0", x.judge(1, -1), -2);
+        Due.is("only 0", x.judge(4, 0), -9);
         Due.is("n 0", x.judge(0, 0), -2);
         Due.is("n 5", x.judge(5, 0), -2);
         Due.is("nothing changed", x.count(4) + x.count(11) + x.count(7), 0);
@@ -494,6 +495,11 @@ public final class PromisesTest {
         fraction("three", three, 0, 1, 3);
         fraction("three", three, 1, 5, 6);
         fraction("three", three, 2, -1, 6);
+        // Right if 0 has come and 1 has not, whoever else has.
+        WinnowedGuilt four = Due.floor("WP0P0P0P0H3G3010");
+        fraction("four", four, 0, 1, 2);
+        fraction("four", four, 1, -1, 2);
+        fraction("four", four, 2, 0, 1);
         fraction("nothing flies", Due.floor("WP0P0P0P0G1000"), 3, 0, 1);
         fraction("alone", Due.floor("WP0H9G1000G2000G1200"), 0, -2, 1);
         WinnowedGuilt later = Due.floor("WP0P0H0H3G3010");
@@ -585,7 +591,7 @@ public final class PromisesTest {
     }
 
     private static void promise26Years() {
-        // By seed 37 the lots are 4 0 7, by 38 8 0 4, by 14 7 2 0, by 2 1 3 0.
+        // By seed 37 the lots are 4 0 7, by 38 8 0 4, by 14 7 2 0, by 2 1 3 0, by 22 1 3 8.
         years("WP0H1G3000", 37, 1, 0);
         years("WP0H1G3000", 37, 2, 3);
         years("WP0H1G3000", 38, 2, 0);
@@ -593,6 +599,8 @@ public final class PromisesTest {
         years("WP0H3H0G3000", 38, 2, 0);
         years("WP0H3H0G3000", 14, 3, 3);
         years("WP0H9G5100G4000G9200", 2, 3, 9);
+        years("WP0P0P0P0H9G1003", 22, 1, 0);
+        years("WP0P0P0P0H9G1003", 22, 2, 1);
         WinnowedGuilt x = Due.floor("WP0H9G5100G4000");
         x.toss(0);
         x.seed(4);
