@@ -1,16 +1,25 @@
 /** Counts and prints answers that are not as due; shared by the tests of the project. */
 final class Due {
+    /** As the document tells them, so that no test takes them from the class. */
+    static final int UNKNOWN = -1, OUTSIDE = -2, STATE = -3, FULL = -4, NONE = -9;
+
     private static int wrong = 0;
     private static int asked = 0;
+    private static String sentence = "";
 
     private Due() {
+    }
+
+    /** What is printed ahead of each wrong answer from here on. */
+    static void by(String words) {
+        sentence = words;
     }
 
     static void is(String call, long got, long want) {
         asked++;
         if (got != want) {
             wrong++;
-            System.out.println(call + " answered " + got + ", due is " + want);
+            System.out.println(sentence + call + " answered " + got + ", due is " + want);
         }
     }
 
@@ -20,6 +29,10 @@ final class Due {
 
     static int wrong() {
         return wrong;
+    }
+
+    static int asked() {
+        return asked;
     }
 
     static void end() {
@@ -42,6 +55,15 @@ final class Due {
         write(x, text);
         if (x.floor() < 0) {
             holds("the floor " + text, false);
+        }
+        return x;
+    }
+
+    /** The same, with so many hours waited. */
+    static WinnowedGuilt floor(String text, int hours) {
+        WinnowedGuilt x = floor(text);
+        for (int i = 0; i < hours; i++) {
+            x.calm();
         }
         return x;
     }
