@@ -449,7 +449,7 @@ public final class WinnowedGuilt {
         }
 
         private boolean tellsPerson(int figure) {
-            if (figure < 0 || figure > MOST_KIND || people >= personKinds.length) {
+            if (figure < 0 || figure > MOST_KIND || people < 0 || people >= personKinds.length) {
                 return false;
             }
             personKinds[people] = figure;
@@ -459,7 +459,7 @@ public final class WinnowedGuilt {
         }
 
         private boolean tellsHour(int figure) {
-            if (figure < 0 || figure > 9 || hours >= winds.length) {
+            if (figure < 0 || figure > 9 || hours < 0 || hours >= winds.length) {
                 return false;
             }
             winds[hours] = figure;

@@ -2,38 +2,21 @@ import java.io.IOException;
 import java.lang.reflect.InvocationTargetException;
 import java.lang.reflect.Method;
 import java.lang.reflect.Modifier;
-import java.nio.file.Files;
-import java.nio.file.Path;
 import java.util.Arrays;
 import java.util.Comparator;
-import java.util.HashMap;
-import java.util.Map;
-import java.util.regex.Matcher;
-import java.util.regex.Pattern;
 
 /** Runs the test of each sentence that names a boundary case, and looks whether the sentence stands in the document. */
 public final class BoundariesTest {
-    private static final Path DOCUMENT = Path.of("../shared/DOC.md");
-    private static final Class<?>[] TESTS = {FloorBoundaries.class, ActBoundaries.class, RowBoundaries.class,
-        SeenBoundaries.class, ChanceBoundaries.class, SlotBoundaries.class};
+    private static final Class<?>[] TESTS = {FrontBoundaries.class, FloorBoundaries.class, ActBoundaries.class,
+        RowBoundaries.class, SeenBoundaries.class, ChanceBoundaries.class, SlotBoundaries.class};
     private static final int PROMISES = 29;
 
     private BoundariesTest() {
     }
 
-    /** The document's parts by their headings ("Terms", "Promise 1"), each on one line. */
-    private static Map<String, String> parts() throws IOException {
-        Map<String, String> parts = new HashMap<>();
-        Matcher part = Pattern.compile("(?ms)^## ([^:\\n]+)[^\\n]*$(.*?)(?=^## |\\z)")
-                .matcher(Files.readString(DOCUMENT));
-        while (part.find()) {
-            parts.put(part.group(1).trim(), part.group(2).replaceAll("\\s+", " "));
-        }
-        return parts;
-    }
-
     private static void runTest(Method test, Says says) throws ReflectiveOperationException {
-        Due.by("Promise " + says.promise() + ", '" + says.words() + "' (" + test.getName() + "): ");
+        Due.by((says.promise() == 0 ? "Ahead of the promises" : "Promise " + says.promise())
+                + ", '" + says.words() + "' (" + test.getName() + "): ");
         int before = Due.asked();
         try {
             test.invoke(null);
@@ -52,7 +35,7 @@ public final class BoundariesTest {
     }
 
     public static void main(String[] args) throws IOException, ReflectiveOperationException {
-        Map<String, String> parts = parts();
+        Document document = Document.read();
         int[] tests = new int[PROMISES + 1];
         for (Class<?> owner : TESTS) {
             for (Method test : testsOf(owner)) {
@@ -61,14 +44,13 @@ public final class BoundariesTest {
                 if (says == null) {
                     continue;
                 }
-                String where = parts.getOrDefault("Promise " + says.promise(), "") + "\n" + parts.get("Terms");
-                Due.holds("the document says in promise " + says.promise() + " or its terms: " + says.words(),
-                        where.contains(says.words()));
+                Due.holds("the document says in promise " + says.promise() + " or ahead of all: " + says.words(),
+                        document.says(says.promise(), says.words()));
                 tests[says.promise()]++;
                 runTest(test, says);
             }
         }
-        for (int promise = 1; promise <= PROMISES; promise++) {
+        for (int promise = 0; promise <= PROMISES; promise++) {
             Due.holds("promise " + promise + " has tests of its boundaries", tests[promise] > 0);
         }
         System.out.println(Arrays.stream(tests).sum() + " tests of boundary sentences");

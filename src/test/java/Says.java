@@ -7,7 +7,7 @@ import java.lang.annotation.Target;
 @Retention(RetentionPolicy.RUNTIME)
 @Target(ElementType.METHOD)
 @interface Says {
-    /** The promise that the sentence stands in, or that rests on it, if it stands among the terms. */
+    /** The promise that the sentence stands in, or that rests on it, if it stands among the terms; 0: none of them. */
     int promise();
 
     /** Words of the document, letter by letter (but for line ends). */
